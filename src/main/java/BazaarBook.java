@@ -52,24 +52,18 @@ public final class BazaarBook {
     private static final int GOOD_FIELD = 4;
     private static final int FIELDS = 5;
 
-    private final Shop[] shops = new Shop[SHOPS];
+    private final Market market = new Market();
     private final Will[] wills = new Will[PERSONS];
     private final Purses purses = new Purses();
     private final Tape tape = new Tape();
-    private final RuleReader reader = new RuleReader(tape);
     private final Rulebook rulebook = new Rulebook();
     private final Planner planner = new Planner();
-    private final Fire fire = new Fire(shops);
     private final int[] numbers = new int[PERSONS];
     private final int[] refusals = new int[1 - FULL];
     private boolean numbersLaid = false;
-    private int shopCount = 0;
     private int day = 0;
 
     public BazaarBook() {
-        for (int s = 0; s < SHOPS; s++) {
-            shops[s] = new Shop();
-        }
         for (int p = 0; p < PERSONS; p++) {
             wills[p] = new Will();
         }
@@ -86,24 +80,24 @@ public final class BazaarBook {
         if (isOutside(worth, 1, MOST_WORTH) || isOutside(hazard, 1, MOST_HAZARD)) {
             return refused(NO);
         }
-        if (shopCount >= SHOPS) {
+        if (market.count >= SHOPS) {
             return refused(FULL);
         }
-        Shop shop = shops[shopCount];
+        int number = market.count;
+        Shop shop = market.shops[number];
         shop.found(street, arch, told % 10);
         shop.worth = worth;
         shop.hazard = hazard;
-        fire.join(shopCount);
+        market.join(number);
         planner.addStreet(arch, street);
-        shopCount++;
-        return shopCount - 1;
+        return number;
     }
 
     public int look(int shop, int what) {
         if (isNoShop(shop)) {
             return refused(BEYOND);
         }
-        Shop seen = shops[shop];
+        Shop seen = market.shops[shop];
         switch (what) {
             case 0:
                 return seen.street;
@@ -135,7 +129,7 @@ public final class BazaarBook {
         if (isNoKind(kind)) {
             return refused(KIND);
         }
-        return shops[shop].partsOf(kind)[person];
+        return market.shops[shop].partsOf(kind)[person];
     }
 
     public int sale(int told, int persons, int parts) {
@@ -152,7 +146,7 @@ public final class BazaarBook {
         if (isOutside(parts, 1, PARTS) || giver == taker) {
             return refused(NO);
         }
-        int[] held = shops[shop].partsOf(kind);
+        int[] held = market.shops[shop].partsOf(kind);
         int going = Math.min(parts, held[giver]);
         held[giver] -= going;
         held[taker] += going;
@@ -192,8 +186,8 @@ public final class BazaarBook {
             return refused(MISSING);
         }
         int gone = 0;
-        for (int s = 0; s < shopCount; s++) {
-            Shop shop = shops[s];
+        for (int s = 0; s < market.count; s++) {
+            Shop shop = market.shops[s];
             gone += will.passOn(person, shop.wall);
             gone += will.passOn(person, shop.seat);
             shop.passDebts(person, will.heirs[0]);
@@ -208,7 +202,7 @@ public final class BazaarBook {
         if (isNoShop(shop) || isNoPair(persons)) {
             return refused(BEYOND);
         }
-        Shop place = shops[shop];
+        Shop place = market.shops[shop];
         if (isOutside(through, day, LAST_DAY) || isOutside(rent, 0, MOST_RENT)
                 || place.isLet() || place.seat[persons / 10] == 0) {
             return refused(NO);
@@ -221,7 +215,7 @@ public final class BazaarBook {
         if (isNoShop(shop) || isNoPerson(person)) {
             return refused(BEYOND);
         }
-        Shop place = shops[shop];
+        Shop place = market.shops[shop];
         if (isOutside(debt, 1, MOST_DEBT) || place.allDebts() + debt > place.worth) {
             return refused(NO);
         }
@@ -239,15 +233,15 @@ public final class BazaarBook {
         if (isOutside(what, 0, 1)) {
             return refused(NO);
         }
-        return what == 0 ? shops[shop].lenders[i] : shops[shop].debts[i];
+        return what == 0 ? market.shops[shop].lenders[i] : market.shops[shop].debts[i];
     }
 
     public int pay(int shop, int i) {
         if (isNoPawn(shop, i)) {
             return refused(BEYOND);
         }
-        int debt = shops[shop].debts[i];
-        shops[shop].dropPawn(i);
+        int debt = market.shops[shop].debts[i];
+        market.shops[shop].dropPawn(i);
         return debt;
     }
 
@@ -258,7 +252,7 @@ public final class BazaarBook {
         if (isOutside(price, 0, MOST_PRICE)) {
             return refused(NO);
         }
-        Shop place = shops[shop];
+        Shop place = market.shops[shop];
         int over = place.payDebts(price, purses);
         purses.part(over, place.seat, 1);
         giveAll(place.seat, person);
@@ -269,7 +263,7 @@ public final class BazaarBook {
         if (isNoShop(shop) || isNoPerson(person)) {
             return refused(BEYOND);
         }
-        Shop place = shops[shop];
+        Shop place = market.shops[shop];
         if (place.seat[person] == 0) {
             return refused(NO);
         }
@@ -317,7 +311,7 @@ public final class BazaarBook {
             return refused(FULL);
         }
         Rule next = rulebook.rules[rulebook.count];
-        int fault = reader.faultOf(next);
+        int fault = tape.faultOf(next);
         if (fault != NONE) {
             return FAULT_BASE - fault;
         }
@@ -332,7 +326,7 @@ public final class BazaarBook {
         if (isNoPerson(person) || isNoShop(shop) || isOutside(good, 0, GOODS - 1)) {
             return refused(BEYOND);
         }
-        Shop place = shops[shop];
+        Shop place = market.shops[shop];
         if (place.seat[person] == 0 && place.sitter != person) {
             return 0;
         }
@@ -362,8 +356,8 @@ public final class BazaarBook {
             return refused(NO);
         }
         int paid = 0;
-        for (int s = 0; s < shopCount; s++) {
-            paid += rentsOf(shops[s], n);
+        for (int s = 0; s < market.count; s++) {
+            paid += rentsOf(market.shops[s], n);
         }
         day += n;
         return paid;
@@ -378,15 +372,15 @@ public final class BazaarBook {
         if (isOutside(cost, 0, MOST_PRICE)) {
             return refused(NO);
         }
-        int bearers = shopsUnder(arch);
+        int bearers = market.shopsUnder(arch);
         if (bearers == 0) {
             return refused(MISSING);
         }
         int each = cost / bearers;
         int left = cost - each * bearers;
-        for (int s = 0; s < shopCount; s++) {
-            if (shops[s].arch == arch) {
-                charge(shops[s], each + left);
+        for (int s = 0; s < market.count; s++) {
+            if (market.shops[s].arch == arch) {
+                charge(market.shops[s], each + left);
                 left = 0;
             }
         }
@@ -434,8 +428,8 @@ public final class BazaarBook {
         if (isIn(opened, from)) {
             return refused(NO);
         }
-        fire.spread(from, opened);
-        return fire.minutes[shop];
+        market.spread(from, opened);
+        return market.minutes[shop];
     }
 
     public int lost(int from, int minute, int opened) {
@@ -445,7 +439,7 @@ public final class BazaarBook {
         if (isIn(opened, from) || isOutside(minute, 0, LAST_MINUTE)) {
             return refused(NO);
         }
-        return fire.lossBy(from, minute, opened);
+        return market.lossBy(from, minute, opened);
     }
 
     public int stop(int from, int minute, int k) {
@@ -455,7 +449,7 @@ public final class BazaarBook {
         if (isOutside(minute, 0, LAST_MINUTE) || isOutside(k, 0, MOST_OPENED)) {
             return refused(NO);
         }
-        return fire.cheapestSet(from, minute, k);
+        return market.cheapestSet(from, minute, k);
     }
 
     public int count(int what) {
@@ -463,15 +457,15 @@ public final class BazaarBook {
             case 0:
                 return day;
             case 1:
-                return shopCount;
+                return market.count;
             case 2:
                 return rulebook.count;
             case 3:
                 return tape.length;
             case 4:
-                return letCount();
+                return market.allLets();
             case 5:
-                return pawnCount();
+                return market.allPawns();
             default:
                 return refused(NO);
         }
@@ -486,7 +480,7 @@ public final class BazaarBook {
         if (isNoKind(kind)) {
             return refused(KIND);
         }
-        System.arraycopy(shops[shop].partsOf(kind), 0, numbers, 0, PERSONS);
+        System.arraycopy(market.shops[shop].partsOf(kind), 0, numbers, 0, PERSONS);
         numbersLaid = true;
         return PERSONS;
     }
@@ -560,15 +554,15 @@ public final class BazaarBook {
     }
 
     private boolean isNoShop(int shop) {
-        return isOutside(shop, 0, shopCount - 1);
+        return isOutside(shop, 0, market.count - 1);
     }
 
     private boolean isNoShopSet(int set) {
-        return isOutside(set, 0, (1 << shopCount) - 1);
+        return isOutside(set, 0, (1 << market.count) - 1);
     }
 
     private boolean isNoPawn(int shop, int i) {
-        return isNoShop(shop) || isOutside(i, 0, shops[shop].pawnCount - 1);
+        return isNoShop(shop) || isOutside(i, 0, market.shops[shop].pawnCount - 1);
     }
 
     private static void giveAll(int[] parts, int person) {
@@ -589,9 +583,9 @@ public final class BazaarBook {
     }
 
     private void state(int person, int shop, int good) {
-        rulebook.facts[STREET_FIELD] = shops[shop].street;
+        rulebook.facts[STREET_FIELD] = market.shops[shop].street;
         rulebook.facts[SHOP_FIELD] = shop;
-        rulebook.facts[ARCH_FIELD] = shops[shop].arch;
+        rulebook.facts[ARCH_FIELD] = market.shops[shop].arch;
         rulebook.facts[PERSON_FIELD] = person;
         rulebook.facts[GOOD_FIELD] = good;
     }
@@ -615,38 +609,10 @@ public final class BazaarBook {
         return paid;
     }
 
-    private int shopsUnder(int arch) {
-        int under = 0;
-        for (int s = 0; s < shopCount; s++) {
-            if (shops[s].arch == arch) {
-                under++;
-            }
-        }
-        return under;
-    }
-
     private void charge(Shop shop, int cost) {
         int forWall = cost * 2 / 3;
         purses.part(forWall, shop.wall, -1);
         purses.part(cost - forWall, shop.seat, -1);
-    }
-
-    private int letCount() {
-        int lets = 0;
-        for (int s = 0; s < shopCount; s++) {
-            if (shops[s].isLet()) {
-                lets++;
-            }
-        }
-        return lets;
-    }
-
-    private int pawnCount() {
-        int pawns = 0;
-        for (int s = 0; s < shopCount; s++) {
-            pawns += shops[s].pawnCount;
-        }
-        return pawns;
     }
 
     /** A shop with the rights over it. */
@@ -663,6 +629,7 @@ public final class BazaarBook {
         private final int[] lenders = new int[PAWNS];
         private final int[] debts = new int[PAWNS];
         private int pawnCount = 0;
+        private int beside = 0;
 
         private void found(int onStreet, int underArch, int owner) {
             street = onStreet;
@@ -815,24 +782,6 @@ public final class BazaarBook {
         }
     }
 
-    /** The bytes that a rule is read from. */
-    private static final class Tape {
-        private final int[] bytes = new int[TAPE_BYTES];
-        private int length = 0;
-
-        private void add(int value) {
-            if (length < TAPE_BYTES) {
-                bytes[length] = value;
-                length++;
-            }
-        }
-
-        /** The byte at a place, NONE behind the end. */
-        private int at(int place) {
-            return place >= 0 && place < length ? bytes[place] : NONE;
-        }
-    }
-
     /** A rule, with its tests in rows. */
     private static final class Rule {
         private boolean bans = false;
@@ -919,18 +868,28 @@ public final class BazaarBook {
     }
 
     /**
-     * Reads a rule from the tape. Each step answers whether the tape goes on
-     * as it wants; if not, the place stands on the byte at fault.
+     * The bytes that a rule is read from. Each step of reading answers whether
+     * the tape goes on as it wants; if not, the place stands on the fault.
      */
-    private static final class RuleReader {
+    private static final class Tape {
         private static final int DIGITS = 4;
 
-        private final Tape tape;
+        private final int[] bytes = new int[TAPE_BYTES];
+        private int length = 0;
         private int place = 0;
         private int number = 0;
 
-        private RuleReader(Tape tape) {
-            this.tape = tape;
+        private void add(int value) {
+            if (length < TAPE_BYTES) {
+                bytes[length] = value;
+                length++;
+            }
+        }
+
+        /** The byte so far ahead of the place, NONE behind the end. */
+        private int ahead(int by) {
+            int at = place + by;
+            return at >= 0 && at < length ? bytes[at] : NONE;
         }
 
         /** The place of the first fault, NONE if the tape is a rule. */
@@ -940,7 +899,7 @@ public final class BazaarBook {
         }
 
         private boolean takeHead(Rule rule) {
-            rule.bans = tape.at(place) == 'b';
+            rule.bans = ahead(0) == 'b';
             boolean good = takeWord(rule.bans ? "ban " : "tax ") && takeNumber();
             rule.number = number;
             return good;
@@ -949,15 +908,15 @@ public final class BazaarBook {
         private boolean takeTests(Rule rule) {
             boolean good = true;
             rule.testCount = 0;
-            for (int t = 0; t < TESTS && good && place < tape.length; t++) {
+            for (int t = 0; t < TESTS && good && place < length; t++) {
                 good = takeWord(t == 0 ? " if " : " and ") && takeTest(rule, t);
                 rule.testCount = t + 1;
             }
-            return good && place == tape.length;
+            return good && place == length;
         }
 
         private boolean takeTest(Rule rule, int test) {
-            rule.denied[test] = tape.at(place) == 'n';
+            rule.denied[test] = ahead(0) == 'n';
             if (rule.denied[test] && !takeWord("not ")) {
                 return false;
             }
@@ -965,7 +924,7 @@ public final class BazaarBook {
             if (!takeWord(wordOf(rule.fields[test]))) {
                 return false;
             }
-            rule.signs[test] = tape.at(place);
+            rule.signs[test] = ahead(0);
             boolean good = takeSign() && takeNumber();
             rule.bounds[test] = number;
             return good;
@@ -973,9 +932,9 @@ public final class BazaarBook {
 
         /** The field that goes furthest with the bytes ahead. */
         private int fieldAhead() {
-            switch (tape.at(place)) {
+            switch (ahead(0)) {
                 case 's':
-                    return tape.at(place + 1) == 't' ? STREET_FIELD : SHOP_FIELD;
+                    return ahead(1) == 't' ? STREET_FIELD : SHOP_FIELD;
                 case 'a':
                     return ARCH_FIELD;
                 case 'p':
@@ -1002,7 +961,7 @@ public final class BazaarBook {
 
         private boolean takeWord(String word) {
             for (int i = 0; i < word.length(); i++) {
-                if (tape.at(place) != word.charAt(i)) {
+                if (ahead(0) != word.charAt(i)) {
                     return false;
                 }
                 place++;
@@ -1011,7 +970,7 @@ public final class BazaarBook {
         }
 
         private boolean takeSign() {
-            int sign = tape.at(place);
+            int sign = ahead(0);
             if (sign != '=' && sign != '<' && sign != '>') {
                 return false;
             }
@@ -1023,8 +982,8 @@ public final class BazaarBook {
         private boolean takeNumber() {
             number = 0;
             int taken = 0;
-            for (; taken < DIGITS && isDigit(tape.at(place)); taken++) {
-                number = 10 * number + tape.at(place) - '0';
+            for (; taken < DIGITS && isDigit(ahead(0)); taken++) {
+                number = 10 * number + ahead(0) - '0';
                 place++;
             }
             return taken > 0;
@@ -1077,12 +1036,16 @@ public final class BazaarBook {
             }
             for (int arch = 0; arch < ARCHES; arch++) {
                 if (isIn(rest, arch)) {
-                    int begin = firstDayFor(arch, placed, days);
-                    order[placed] = arch;
-                    begins[placed] = begin;
-                    tryOrders(placed + 1, rest & ~(1 << arch), Math.max(days, begin + needs[arch]));
+                    tryNext(arch, placed, rest & ~(1 << arch), days);
                 }
             }
+        }
+
+        private void tryNext(int arch, int placed, int rest, int days) {
+            int begin = firstDayFor(arch, placed, days);
+            order[placed] = arch;
+            begins[placed] = begin;
+            tryOrders(placed + 1, rest, Math.max(days, begin + needs[arch]));
         }
 
         private void keepOrder(int days) {
@@ -1117,15 +1080,18 @@ public final class BazaarBook {
         }
     }
 
-    /** The ways of a fire from shop to shop. */
-    private static final class Fire {
-        private final Shop[] shops;
-        private final int[] beside = new int[SHOPS];
+    /** The shops as they came, and the ways of a fire among them. */
+    private static final class Market {
+        private final Shop[] shops = new Shop[SHOPS];
         private final int[] minutes = new int[SHOPS];
         private int count = 0;
+        private int cheapest = 0;
+        private int leastCost = 0;
 
-        private Fire(Shop[] shops) {
-            this.shops = shops;
+        private Market() {
+            for (int s = 0; s < SHOPS; s++) {
+                shops[s] = new Shop();
+            }
         }
 
         /**
@@ -1149,8 +1115,36 @@ public final class BazaarBook {
         }
 
         private void link(int one, int other) {
-            beside[one] |= 1 << other;
-            beside[other] |= 1 << one;
+            shops[one].beside |= 1 << other;
+            shops[other].beside |= 1 << one;
+        }
+
+        private int shopsUnder(int arch) {
+            int under = 0;
+            for (int s = 0; s < count; s++) {
+                if (shops[s].arch == arch) {
+                    under++;
+                }
+            }
+            return under;
+        }
+
+        private int allLets() {
+            int lets = 0;
+            for (int s = 0; s < count; s++) {
+                if (shops[s].isLet()) {
+                    lets++;
+                }
+            }
+            return lets;
+        }
+
+        private int allPawns() {
+            int pawns = 0;
+            for (int s = 0; s < count; s++) {
+                pawns += shops[s].pawnCount;
+            }
+            return pawns;
         }
 
         /** Leaves in minutes when each shop burns, NONE if it doesn't. */
@@ -1158,10 +1152,12 @@ public final class BazaarBook {
             Arrays.fill(minutes, NONE);
             minutes[from] = 0;
             int waiting = 1 << from;
-            for (int step = 0; step < count && waiting != 0; step++) {
+            for (int step = 0; step < count; step++) {
                 int next = soonest(waiting);
-                int caught = catchFrom(next, opened);
-                waiting = waiting & ~(1 << next) | caught;
+                if (next == NONE) {
+                    return;
+                }
+                waiting = waiting & ~(1 << next) | catchFrom(next, opened);
             }
         }
 
@@ -1182,7 +1178,7 @@ public final class BazaarBook {
         private int catchFrom(int burning, int opened) {
             int caught = 0;
             for (int s = 0; s < count; s++) {
-                if (isIn(beside[burning] & ~opened, s) && minutes[s] == NONE) {
+                if (isIn(shops[burning].beside & ~opened, s) && minutes[s] == NONE) {
                     minutes[s] = minutes[burning] + shops[s].hazard;
                     caught |= 1 << s;
                 }
@@ -1211,31 +1207,33 @@ public final class BazaarBook {
             return worth;
         }
 
-        private int costOf(int from, int minute, int opened) {
-            return lossBy(from, minute, opened) + worthOf(opened) / 2;
-        }
-
         /**
          * Fewer shops come first, and of as many the lesser set, so that a
          * later set is taken only if it costs less.
          */
         private int cheapestSet(int from, int minute, int most) {
-            int best = 0;
-            int least = costOf(from, minute, 0);
-            for (int size = 1; size <= most; size++) {
-                for (int high = 0; high < count; high++) {
-                    int lows = size == 1 ? 1 : high;
-                    for (int low = 0; low < lows; low++) {
-                        int set = size == 1 ? 1 << high : 1 << high | 1 << low;
-                        int cost = isIn(set, from) ? least : costOf(from, minute, set);
-                        if (cost < least) {
-                            best = set;
-                            least = cost;
-                        }
-                    }
+            leastCost = Integer.MAX_VALUE;
+            weigh(0, from, minute);
+            for (int high = 0; high < count && most >= 1; high++) {
+                weigh(1 << high, from, minute);
+            }
+            for (int high = 1; high < count && most >= 2; high++) {
+                for (int low = 0; low < high; low++) {
+                    weigh(1 << high | 1 << low, from, minute);
                 }
             }
-            return best;
+            return cheapest;
+        }
+
+        private void weigh(int opened, int from, int minute) {
+            if (isIn(opened, from)) {
+                return;
+            }
+            int cost = lossBy(from, minute, opened) + worthOf(opened) / 2;
+            if (cost < leastCost) {
+                leastCost = cost;
+                cheapest = opened;
+            }
         }
     }
 }
