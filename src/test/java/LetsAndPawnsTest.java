@@ -101,6 +101,8 @@ public final class LetsAndPawnsTest {
         c.due(x.pawn(0, 1, 9919), -8);
         c.due(x.look(0, 7), 8);
         c.due(x.look(0, 8), 80);
+        x.shop(1, 9999, 1);
+        c.due(x.pawn(2, 1, 9999), 1);
     }
 
     private static void pawnedRefusals() {
@@ -226,6 +228,9 @@ public final class LetsAndPawnsTest {
         x.sale(100, 52, 2);
         c.due(x.first(0, 5), 2);
         c.due(x.first(0, 2), 5);
+        x.sale(100, 50, 2);
+        c.due(x.first(0, 5), 0);
+        c.due(x.first(0, 0), 5);
     }
 
     private static void firstRefusals() {
