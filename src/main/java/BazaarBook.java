@@ -44,6 +44,8 @@ public final class BazaarBook {
     private static final int FED_BYTES = 4;
     private static final int ANY_GOOD = 99;
     private static final int FAULT_BASE = -10;
+    /** More than any order of arches takes, and than any fire and opening cost. */
+    private static final int UNREACHED = 1000000;
 
     private static final int STREET_FIELD = 0;
     private static final int SHOP_FIELD = 1;
@@ -1017,7 +1019,7 @@ public final class BazaarBook {
 
         private int leastDays(int set) {
             size = Integer.bitCount(set);
-            bestDays = Integer.MAX_VALUE;
+            bestDays = UNREACHED;
             tryOrders(0, set, 0);
             return bestDays;
         }
@@ -1212,7 +1214,7 @@ public final class BazaarBook {
          * later set is taken only if it costs less.
          */
         private int cheapestSet(int from, int minute, int most) {
-            leastCost = Integer.MAX_VALUE;
+            leastCost = UNREACHED;
             weigh(0, from, minute);
             for (int high = 0; high < count && most >= 1; high++) {
                 weigh(1 << high, from, minute);

@@ -41,6 +41,7 @@ public final class FaceTest {
         classesInside();
         String code = withoutComments(Files.readString(SOURCE));
         words(code);
+        library(code);
         methods(code);
         c.end();
     }
@@ -113,6 +114,16 @@ public final class FaceTest {
             if (code.charAt(i) > 126) {
                 c.isTrue("signs 1 to 126 at " + i, false);
             }
+        }
+    }
+
+    /** Rule 4: what is named of the library is what LANGUAGE.md lists of it. */
+    private static void library(String code) {
+        Set<String> listed = Set.of("Math.min", "Math.max", "Integer.bitCount", "Arrays.fill", "System.arraycopy");
+        Matcher named = Pattern.compile("\\b(Math|Integer|Long|Arrays|System|String|List)\\.(\\w+)").matcher(
+                code.replaceAll("import [^;]+;", ""));
+        while (named.find()) {
+            c.isTrue(named.group() + " is listed", listed.contains(named.group()));
         }
     }
 
