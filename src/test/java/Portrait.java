@@ -2,8 +2,9 @@ import java.util.ArrayList;
 import java.util.List;
 
 /**
- * All that can be seen of a book, as rows of calls with their answers. Some of
- * them are refused, or change the book (heirs and days to come are seen in no
+ * What can be seen of a book, as rows of calls with their answers; of shops it
+ * shows three at most, of rules what they say to ten pairs of person and good
+ * in shop 0. Some of the calls are refused, or change the book (heirs and days to come are seen in no
  * other way), so each side of it wants a book of its own, which is of no
  * further use.
  */
