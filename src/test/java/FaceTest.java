@@ -43,6 +43,7 @@ public final class FaceTest {
         words(code);
         library(code);
         methods(code);
+        madeInConstructors(code);
         c.end();
     }
 
@@ -140,6 +141,21 @@ public final class FaceTest {
                 c.isTrue("at most sixty lines: " + lines[begin].trim(), i - begin <= 60);
                 begin = -1;
             }
+        }
+    }
+
+    /** Rule 12: what is made is made once, with the object; no call makes anything. */
+    private static void madeInConstructors(String code) {
+        String method = "";
+        for (String line : code.split("\n")) {
+            Matcher head = Pattern.compile("^ +(?:public|private) (.*\\)) \\{$").matcher(line);
+            if (head.matches()) {
+                boolean constructor = head.group(1).matches("\\w+\\(.*");
+                method = constructor ? "" : head.group(1);
+            } else if (line.matches(" +private (static )?final .*")) {
+                method = "";
+            }
+            c.isTrue("nothing is made in " + method, method.isEmpty() || !line.matches(".*\\bnew\\b.*"));
         }
     }
 
